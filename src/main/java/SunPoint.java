@@ -787,9 +787,9 @@ public final class SunPoint {
             return x >= 0 && x < POINTS;
         }
 
+        /** Behind it, and what is told then, reckon() is due. */
         void renew() {
             count = 0;
-            reckon();
         }
 
         void copyFrom(Panel other) {
@@ -843,8 +843,8 @@ public final class SunPoint {
 
         private int greatestLit() {
             int most = 0;
-            for (int i = 0; i < count; i++) {
-                most = Math.max(most, litOf(i));
+            for (int i = 0; i < count && i < MOST_MODULES; i++) {
+                most = Math.max(most, lits[i]);
             }
             return most;
         }
@@ -855,10 +855,10 @@ public final class SunPoint {
 
         int voltsAt(int x) {
             int all = 0;
-            for (int i = 0; i < count; i++) {
-                int square = litOf(i) * litOf(i);
-                if (x < litOf(i) && square > 0) {
-                    all += voltsOf(i) * (square - x * x) / square;
+            for (int i = 0; i < count && i < MOST_MODULES; i++) {
+                int square = lits[i] * lits[i];
+                if (x < lits[i] && square > 0) {
+                    all += moduleVolts[i] * (square - x * x) / square;
                 }
             }
             return all;

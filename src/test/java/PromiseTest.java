@@ -223,7 +223,42 @@ public final class PromiseTest {
         }
         due("an empty TEXT", s.text(0), 0);
         due("count(0)", s.count(0), 0);
+        for (int n = 1; n <= 96; n += 5) {
+            anew(n);
+        }
         due("24 at", of(ONE + repeat("at 1 grid 0;", 24)).count(1), 24);
+    }
+
+    /** An object that did n TICKS of all there is to do, and gets another TEXT, is as one that is new. */
+    private static void anew(int n) {
+        String text = TWO + "follow 3 2 10 0 0;at 2 light 0 50;";
+        SunPoint fresh = of(text);
+        SunPoint s = of("module 100 900;module 300 900;module 300 900;battery 1000 900 7;stages 1390 1200 90 2 9;"
+            + "inverter 10 3 50 2 70;follow 9 3 30 40 9;way 0 33;at 9 grid 0;at 9 tune 46000;at 30 grid 1;"
+            + "at 60 grid 0;at 75 grid 1;at 70 light 1 5;at 9999 light 0 0;");
+        s.ticks(n);
+        s.settle(1, 999);
+        s.bestGap(9);
+        due("text", s.text(fed(s, text)), 4);
+        for (int round = 0; round < 3; round++) {
+            for (int what = 0; what < 18; what++) {
+                due("now(" + what + ") anew", s.now(what), fresh.now(what));
+            }
+            for (int what = 0; what < 11; what++) {
+                due("sum(" + what + ") anew", s.sum(what), fresh.sum(what));
+            }
+            for (int what = 0; what < 19; what++) {
+                due("told(" + what + ") anew", s.told(what), fresh.told(what));
+            }
+            for (int what = 0; what < 4; what++) {
+                due("count(" + what + ") anew", s.count(what), fresh.count(what));
+            }
+            for (int x = 0; x < 1000; x += round == 0 ? 1 : 50) {
+                due("power(" + x + ") anew", s.power(x), fresh.power(x));
+            }
+            due("ticks(9) anew", s.ticks(9), fresh.ticks(9));
+            due("settle anew", s.settle(17, 2), fresh.settle(17, 2));
+        }
     }
 
     private static void fault() {
@@ -244,6 +279,8 @@ public final class PromiseTest {
         refused("5;", 1, 0);
         refused("modul 5 5;", 1, 0);
         refused("modules 5 5;", 1, 0);
+        refused("modulez 5 5;", 1, 0);
+        refused("nodule 5 5;", 1, 0);
         refused("Module 5 5;", 1, 0);
         refused("module 5 5;\tmodule 5 5;", 1, 11);
         refused("module -5 5;", 1, 7);
@@ -270,6 +307,7 @@ public final class PromiseTest {
         refused("module 5 5;at 5 lights 0 0;", 1, 16);
         refused("module 5 5;at 5 grid;", 1, 20);
         refused("module 5 5;at 5", 1, 15);
+        refused("module 5 5;at 5;", 1, 15);
         refused("module 5 5;at 5 light 0;", 1, 23);
         refused("module 5 5;grid 0;", 1, 11);
         // 2: too much
@@ -489,6 +527,33 @@ public final class PromiseTest {
         h.light(0, 0);
         h.ticks(1);
         state(h, 6, 1);
+        // 360 behind 374 is less by more than 3 in the hundred, and by less than 4.
+        SunPoint three = of(ONE + "follow 4 3 50 0 3;");
+        three.ticks(8);
+        state(three, 5, 360, 1);
+        SunPoint four = of(ONE + "follow 4 3 50 0 4;");
+        four.ticks(8);
+        state(four, 5, 360, 0);
+        SunPoint one = of(ONE + "follow 4 3 50 0 1;");
+        one.ticks(8);
+        state(one, 5, 360, 1);
+        SunPoint every = of(ONE + "follow 4 3 200 1 0;");
+        every.ticks(1);
+        state(every, 5, 39, 1, 1);
+        // What a SCAN leaves: STEP as told, up; the TICK behind it is none of it.
+        SunPoint back = of(ONE);
+        back.ticks(8);
+        state(back, 1, 68, -1, 8, 0, 360, 0, 8);
+        back.scan();
+        back.ticks(21);
+        state(back, 1, 50, 1, 4, 0, 375, 0, 0);
+        back.ticks(1);
+        state(back, 1, 54, 1, 4, 1, 378, 0, 1);
+        due("past(0, 9)", back.past(0, 9), 0);
+        due("past(1, 9)", back.past(1, 9), 1);
+        due("past(21, 9)", back.past(21, 9), 1);
+        due("past(22, 9)", back.past(22, 9), 0);
+        due("sum(7)", back.sum(7), 1);
         // With DROP 100 none begins so: nothing is less than 0.
         SunPoint n = of(ONE + "follow 10 9 200 0 100;at 2 light 0 0;");
         n.ticks(2);
@@ -565,6 +630,24 @@ public final class PromiseTest {
         SunPoint m = of(ONE + "battery 10000 0 0;stages 1119 1119 80 9 384;way 2 60;");
         m.ticks(2);
         row(m, 60, 384, 384, 179, 205, 0, 50000, 2);
+        // BASE is 1100 and 298, 384 by 20 is 19.
+        SunPoint big = of(ONE + "battery 99999 99400 0;stages 1417 1100 80 2 0;way 2 60;");
+        big.ticks(1);
+        state(big, 9, 1);
+        SunPoint bigger = of(ONE + "battery 99999 99400 0;stages 1418 1100 80 2 0;way 2 60;");
+        bigger.ticks(1);
+        state(bigger, 9, 0);
+        // LONG is 0 again when HELD begins again.
+        SunPoint again = of(ONE + "battery 1000 1000 0;stages 1400 1100 80 3 0;way 2 60;");
+        again.ticks(4);
+        state(again, 9, 2, 3);
+        again.settle(1, 300);
+        again.ticks(1);
+        state(again, 8, 700, 0, 3);
+        again.settle(1, 0);
+        again.ticks(1);
+        state(again, 8, 1000, 1, 0);
+        due("sum(8)", again.sum(8), 2);
         // BACK: just as much isn't less.
         SunPoint b = of(ONE + "battery 1000 1000 0;stages 1400 1100 80 1 0;way 2 60;");
         b.ticks(2);
@@ -620,6 +703,12 @@ public final class PromiseTest {
         state(s, 11, 1);
         s.ticks(1);
         row(s, 60, 384, 384, 0, 150, 234, 50000, 2, 1);
+        // SEEN again, WAITED is 0 again.
+        state(s, 17, 3);
+        s.grid(0);
+        s.ticks(3);
+        state(s, 11, 0);
+        state(s, 17, 0);
         // WINDOW: as far isn't farther; BAD is 0 again; below 50000 PUSH goes down.
         SunPoint w = of(ONE + "inverter 100 2 100 3 150;");
         w.grid(0);
@@ -693,6 +782,7 @@ public final class PromiseTest {
         due("scan() behind it", s.scan(), 1);
         s.ticks(1);
         state(s, 1, 0);
+        due("sum(7)", s.sum(7), 1);
     }
 
     private static void told() {
@@ -835,6 +925,7 @@ public final class PromiseTest {
         }
         due("band(0, 0)", s.band(0, 0), -1);
         due("band(101, 0)", s.band(101, 0), -1);
+        due("band(101, 2)", s.band(101, 2), -1);
         due("band(50, 3)", s.band(50, 3), -1);
         due("band(50, -1)", s.band(50, -1), -1);
         SunPoint none = new SunPoint();
@@ -869,6 +960,12 @@ public final class PromiseTest {
         due("shadeOf(0)", s.shadeOf(0), 0);
         due("shadeOf(2)", s.shadeOf(2), -1);
         due("shadeOf(-1)", s.shadeOf(-1), -1);
+        SunPoint one = of(ONE);
+        due("shadeOf(0)", one.shadeOf(0), 0);
+        one.light(0, 10);
+        // LIT 10: at 6 there are 64 VOLTS
+        due("best(1)", one.best(1), 6 * 64 / 10);
+        due("shadeOf(0)", one.shadeOf(0), 384 - 38);
         due("module(1, 2)", s.module(1, 2), 0);
         due("best(1)", s.best(1), 1);
     }
@@ -902,6 +999,9 @@ public final class PromiseTest {
         like.light(1, 50);
         like.light(2, 50);
         due("darkest()", like.darkest(), 1);
+        SunPoint little = of(ONE + "module 90 50;");
+        little.light(1, 95);
+        due("darkest()", little.darkest(), 1);
     }
 
     // ---------------------------------------------------------------- what is and what was
@@ -1021,6 +1121,13 @@ public final class PromiseTest {
         due("longestAway(101)", s.longestAway(101), -1);
         due("longestAway(-1)", s.longestAway(-1), -1);
         due("longestAway(50) without TICKS", new SunPoint().longestAway(50), 0);
+        SunPoint climbing = of(ONE);
+        climbing.ticks(3);
+        // 39 79 117 of 384
+        due("longestAway(10)", climbing.longestAway(10), 0);
+        due("longestAway(11)", climbing.longestAway(11), 1);
+        due("longestAway(30)", climbing.longestAway(30), 2);
+        due("longestAway(31)", climbing.longestAway(31), 3);
     }
 
     private static void ripple() {
@@ -1035,6 +1142,11 @@ public final class PromiseTest {
         due("ripple(0)", s.ripple(0), -1);
         due("ripple(5) without TICKS", new SunPoint().ripple(5), -2);
         due("ripple(101) without TICKS", new SunPoint().ripple(101), -1);
+        SunPoint climbing = of(ONE);
+        climbing.ticks(3);
+        due("ripple(1)", climbing.ripple(1), 0);
+        due("ripple(2)", climbing.ripple(2), 4);
+        due("ripple(3)", climbing.ripple(3), 8);
     }
 
     private static void average() {
@@ -1047,6 +1159,11 @@ public final class PromiseTest {
         due("average(101)", s.average(101), -1);
         due("average(0)", s.average(0), -1);
         due("average(1) without TICKS", new SunPoint().average(1), -2);
+        SunPoint climbing = of(ONE);
+        climbing.ticks(3);
+        due("average(1)", climbing.average(1), 117);
+        due("average(2)", climbing.average(2), 98);
+        due("average(3)", climbing.average(3), 78);
     }
 
     private static void worst() {
@@ -1109,6 +1226,12 @@ public final class PromiseTest {
         s.ticks(7);
         state(s, 12, 0, 50000);
         due("cancel(0)", s.cancel(0), -2);
+        SunPoint first = coming();
+        due("cancel(0)", first.cancel(0), 4);
+        due("comes(0, 3)", first.comes(0, 3), 8);
+        due("cancel(3)", first.cancel(3), 3);
+        due("comes(2, 1)", first.comes(2, 1), 1);
+        due("comes(3, 1)", first.comes(3, 1), -2);
         due("cancel(MIN)", s.cancel(Integer.MIN_VALUE), -1);
         due("count(1)", s.count(1), 0);
     }
@@ -1137,6 +1260,22 @@ public final class PromiseTest {
         due("ifTicks(5, 8)", s.ifTicks(5, 8), -1);
         due("ifTicks(5, -1)", s.ifTicks(5, -1), -1);
         due("ifTicks(1, 0) without MODULES", new SunPoint().ifTicks(1, 0), -1);
+        // In the middle of a SCAN: from the best POINT so far, if none is better.
+        SunPoint scanning = of(ONE + "follow 4 3 20 0 0;");
+        scanning.scan();
+        scanning.ticks(10);
+        due("ifTicks(41, 7)", scanning.ifTicks(41, 7), 60);
+        due("ifTicks(41, 0)", scanning.ifTicks(41, 0), 384);
+        SunPoint half = of(ONE + "follow 4 3 20 0 0;");
+        half.scan();
+        half.ticks(4);
+        due("ifTicks(47, 7)", half.ifTicks(47, 7), 60);
+        // OFF, and WAITED once of three times.
+        SunPoint off = of(ONE + "battery 1000 1000 0;inverter 10 1 50 3 60;way 2 60;at 1 grid 0;at 2 grid 1;");
+        off.ticks(2);
+        state(off, 11, 0);
+        due("ifTicks(3, 2)", off.ifTicks(3, 2), 60);
+        due("ifTicks(3, 3)", off.ifTicks(3, 3), 2 * 384 + 324);
         // Beyond 9999, too.
         SunPoint late = of(ONE + "way 2 60;");
         for (int i = 0; i < 19; i++) {
@@ -1159,6 +1298,9 @@ public final class PromiseTest {
         due("firstSeen(1)", s.firstSeen(1), 1);
         s.ticks(1);
         due("firstSeen(9), OFF", s.firstSeen(9), -2);
+        SunPoint half = of(ONE + "inverter 400 2 100 3 150;at 3 grid 0;at 4 tune 51000;");
+        half.ticks(5);
+        due("firstSeen(1) on the way", half.firstSeen(1), 1);
     }
 
     private static void firstFloat() {
@@ -1171,6 +1313,10 @@ public final class PromiseTest {
         due("firstFloat(5) without MODULES", new SunPoint().firstFloat(5), -1);
         s.ticks(3);
         due("firstFloat(1)", s.firstFloat(1), 1);
+        SunPoint held = of(ONE + "battery 1000 1000 0;stages 1400 1100 80 9 0;way 2 60;");
+        held.ticks(6);
+        state(held, 9, 1, 5);
+        due("firstFloat(9)", held.firstFloat(9), 4);
     }
 
     private static void leastPush() {
@@ -1189,6 +1335,10 @@ public final class PromiseTest {
         due("leastPush(1)", s.leastPush(1), 0);
         s.settle(7, 5000);
         s.tune(50000);
+        due("leastPush(1)", s.leastPush(1), -2);
+        s.settle(7, 999);
+        due("leastPush(1)", s.leastPush(1), 1000);
+        s.settle(7, 1000);
         due("leastPush(1)", s.leastPush(1), -2);
         // RATE and BAD as they are; whether it is ON, and GRID, count for nothing.
         SunPoint r = of(ONE + "inverter 100 2 101 3 150;at 1 grid 0;");
@@ -1297,6 +1447,9 @@ public final class PromiseTest {
         due("seenBy(55001, 5)", s.seenBy(55001, 5), -1);
         due("seenBy(50000, 0)", s.seenBy(50000, 0), -1);
         due("seenBy(50000, 201)", s.seenBy(50000, 201), -1);
+        s.settle(8, 1);
+        due("seenBy(55000, 1)", s.seenBy(55000, 1), 1);
+        s.settle(8, 3);
         s.settle(9, 1000);
         due("seenBy(50000, 200)", s.seenBy(50000, 200), 3);
         state(s, 12, 1, 50000, 50000);
@@ -1330,6 +1483,8 @@ public final class PromiseTest {
         due("bestGap(0)", s.bestGap(0), -1);
         due("bestGap(301)", s.bestGap(301), -1);
         due("bestGap(5) without MODULES", new SunPoint().bestGap(5), -1);
+        // the greatest POWER is at 200
+        due("bestGap(2)", of("module 347 999;").bestGap(2), 200);
     }
 
     private static void ifNear() {
