@@ -1000,7 +1000,8 @@ public final class PromiseTest {
         like.light(2, 50);
         due("darkest()", like.darkest(), 1);
         SunPoint little = of(ONE + "module 90 50;");
-        little.light(1, 95);
+        little.light(1, 99);
+        due("shadeOf(1) is above 0", little.shadeOf(1) > 0 ? 1 : 0, 1);
         due("darkest()", little.darkest(), 1);
     }
 
