@@ -428,6 +428,7 @@ final class PanelEdges {
         Edges.due("darkest(), the first of two", s.darkest(), 3);
         s.light(4, 50);
         Edges.due("darkest()", s.darkest(), 4);
+        Edges.due("darkest(), none in shade", Edges.of("module 50 100;module 500 100;").darkest(), 0);
         Edges.due("darkest() of one", Edges.of(Edges.ONE).darkest(), 0);
         Edges.due("darkest() without POWER", Edges.of("module 1 9;module 1 9;").darkest(), 0);
     }

@@ -288,7 +288,7 @@ final class TextEdges {
         }
         for (String word : ALL_WORDS) {
             String cut = word.substring(0, word.length() - 1);
-            for (String none : new String[] {cut, cut + (char) (word.charAt(word.length() - 1) ^ 1), word + "s",
+            for (String none : new String[] {cut, cut + (char) (word.charAt(word.length() - 1) ^ 1), word + "s", word + "z",
                 "a" + word, word + word, word.toUpperCase(), word.substring(1) + "x", word.charAt(0) + "" + word}) {
                 Edges.refused(none + " 5 5;", 1, 0);
                 Edges.refused("module 5 5;" + none + " 5 5;", 1, 11);
@@ -353,6 +353,14 @@ final class TextEdges {
         Edges.feed(s, "module 5 5;");
         Edges.due("text(9)", s.text(9), -1);
         Edges.due("fault(1)", s.fault(1), 9);
+        // Nor does a number, or a word, go on behind n.
+        Edges.feed(s, "module 5 1000;");
+        Edges.due("text(12)", s.text(12), -1);
+        Edges.due("fault(0)", s.fault(0), 1);
+        Edges.due("fault(1)", s.fault(1), 12);
+        Edges.feed(s, "modules");
+        Edges.due("text(6)", s.text(6), -1);
+        Edges.due("fault(1)", s.fault(1), 6);
 
         Edges.sentence(0, "the word of a LINE that stands too early or too late).");
         for (String line : SETTINGS) {
@@ -476,6 +484,23 @@ final class TextEdges {
         Edges.due("text(11)", s.text(11), 1);
         Edges.due("count(3)", s.count(3), 0);
         Edges.same("all", Edges.picture(s), Edges.picture(Edges.of("module 5 6;")));
+        // What was tried of what would be leaves nothing behind, either.
+        for (int ticks = 1; ticks <= 100; ticks += 3) {
+            SunPoint tried = Edges.after(Edges.TWO + "battery 1000 900 7;stages 1390 1200 90 2 9;inverter 10 3 50 2 70;"
+                + "follow 9 3 30 40 9;way 0 33;at 9 grid 0;at 9 tune 46000;at 30 grid 1;at 60 grid 0;at 70 light 1 5;at 9999 light 0 0;", ticks);
+            tried.settle(1, 999);
+            tried.ifTicks(ticks, 0);
+            tried.bestGap(ticks % 50 + 1);
+            Edges.due("text", tried.text(Edges.feed(tried, Edges.TWO + "at 2 light 0 50;")), 3);
+            SunPoint fresh = Edges.of(Edges.TWO + "at 2 light 0 50;");
+            Edges.same("all", Edges.picture(tried), Edges.picture(fresh));
+            Edges.due("ticks(9)", tried.ticks(9), fresh.ticks(9));
+            Edges.same("all, 9 TICKS on", Edges.picture(tried), Edges.picture(fresh));
+        }
+        SunPoint floats = Edges.after(Edges.ONE + "way 2 60;battery 1000 1000 0;", 1);
+        Edges.due("FLOAT then", floats.ifTicks(30, 5), 2);
+        Edges.due("text", floats.text(Edges.feed(floats, Edges.TWO)), 2);
+        Edges.same("all", Edges.picture(floats), Edges.picture(Edges.of(Edges.TWO)));
         // n is 0: an empty TEXT, of whatever TAPE.
         Edges.feed(s, "module 5 6;");
         Edges.due("text(0)", s.text(0), 0);

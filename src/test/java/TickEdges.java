@@ -365,6 +365,13 @@ final class TickEdges {
             s.ticks(1);
             Edges.now(s, 5, 2, drop > 0 && drop < 50 ? 1 : 0);
         }
+        // 384, of which 380 (at 56) is less than 99 in the hundred, 381 (at 57) isn't.
+        for (int share = 56; share <= 57; share++) {
+            SunPoint s = Edges.after(STEADY + "follow 3 9 200 0 1;", 1);
+            s.settle(18, share);
+            s.ticks(1);
+            Edges.now(s, 5, share == 56 ? 380 : 381, share == 56 ? 1 : 0);
+        }
         // All is gone: by DROP 0 none, by 100 none (0 isn't less than 0), by all others.
         for (int drop : new int[] {0, 1, 50, 99, 100}) {
             SunPoint s = Edges.after(STEADY + "follow 3 9 200 0 " + drop + ";", 1);
@@ -411,6 +418,20 @@ final class TickEdges {
         // 300 times 384 by 10000 is 11.52: BASE is 1111 (19 VOLTS to 1130), not 1112.
         SunPoint base = Edges.after(STEADY + "stages 1119 1119 0 9 0;", 2);
         Edges.row(base, 60, 384, 384, 20 * 8 + 19, 384 - 179, 0, 50000, 1);
+        // CHARGE is 999 of 1000: BASE is 1399 (299.7), and 1 is all that CAP leaves; 998: 1399 (299.4).
+        for (int high = 1398; high <= 1400; high++) {
+            for (int drain = 1; drain <= 2; drain++) {
+                SunPoint s = held(high, 200, 0);
+                s.settle(1, drain);
+                s.ticks(1);
+                Edges.due("TAKEN", s.past(0, 3), high < 1399 ? 0 : drain);
+            }
+        }
+        // At first it is by CHARGE 0: just 1100; and by all of CAP 99999 1400, by 1 less 1399.
+        Edges.now(Edges.after("module 1 9;stages 1100 1100 0 9 0;", 1), 9, 1);
+        Edges.now(Edges.after("module 1 9;stages 1101 1100 0 9 0;", 1), 9, 0);
+        Edges.now(Edges.after("module 1 9;battery 99999 99998 0;stages 1399 1100 0 9 0;", 1), 9, 1);
+        Edges.now(Edges.after("module 1 9;battery 99999 99998 0;stages 1400 1100 0 9 0;", 1), 9, 0);
 
         Edges.sentence(0, "in HELD, FLOAT GIVEN, but no more than 20 times (HIGH, LOW less BASE) and 19, 0 at least; never more than CAP less"
             + " CHARGE. CHARGE is TAKEN more.");
@@ -908,6 +929,18 @@ final class TickEdges {
         s.ticks(1);
         Edges.now(s, 6, 0);
         Edges.due("sum(7)", s.sum(7), 1);
+        // Behind its end at once: one that goes on has not ended.
+        Edges.due("scan()", s.scan(), 1);
+        s.ticks(1);
+        Edges.due("sum(7)", s.sum(7), 1);
+        s.ticks(5);
+        Edges.due("sum(7)", s.sum(7), 2);
+        s.ticks(1);
+        Edges.due("sum(7)", s.sum(7), 2);
+        s.ticks(1);
+        Edges.due("sum(7)", s.sum(7), 2);
+        s.ticks(6);
+        Edges.now(s, 6, 0, 0);
         // One that began by EVERY is there already, too.
         s.ticks(2);
         Edges.now(s, 6, 1);

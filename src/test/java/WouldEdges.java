@@ -45,6 +45,20 @@ final class WouldEdges {
                 Edges.now(s, 0, 7);
             }
         }
+        // From whatever state: in a SCAN, HELD, with BAD, OFF and waiting.
+        String busy = STEADY + "battery 1000 900 1;stages 1400 1300 99 5 0;inverter 60 4 9 6 90;follow 4 3 100 30 0;"
+            + "at 10 tune 54000;at 10 grid 0;at 16 grid 1;at 30 grid 0;at 32 grid 1;at 33 grid 0;at 50 grid 1;";
+        for (int gone = 0; gone <= 60; gone++) {
+            for (int n = 1; n <= 8; n++) {
+                SunPoint s = Edges.after(busy, gone);
+                SunPoint done = Edges.after(busy, gone + n);
+                long[] want = {done.sum(0) - s.sum(0), done.sum(2) - s.sum(2), done.sum(3) - s.sum(3), done.sum(4) - s.sum(4), done.now(8),
+                    done.now(9), done.sum(6) - s.sum(6), done.now(1)};
+                for (int what = 0; what < 8; what++) {
+                    Edges.due("ifTicks(" + n + ", " + what + ") from TICK " + gone, s.ifTicks(n, what), want[what]);
+                }
+            }
+        }
         SunPoint s = Edges.of(STEADY);
         SunPoint none = new SunPoint();
         for (int what = 0; what < 8; what++) {
